@@ -164,6 +164,10 @@ public final class DepthsTest {
         clears(x, 0, 1, 0, 1, 0);
         clears(x, 0, 1, 1, 1, 0);
         clears(x, 0, 0, 0, 0, 5);
+        x.setDepth(0, 1, 1);
+        clears(x, 0, 0, 7, 7, 1);
+        clears(x, 0, 1, 0, 1, 1);
+        clears(x, 1, 0, 0, 1, 0);
         x.pass(4);
         clears(x, 0, 0, 0, 0, 5);
         clears(x, 3, 0, 7, 7, 2);

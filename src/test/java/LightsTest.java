@@ -99,8 +99,13 @@ public final class LightsTest {
         Check.index("light -1", () -> x.removeLight(-1));
         x.removeLight(0);
         Check.index("no light", () -> x.removeLight(0));
-        Check.same("a new light has no sightings", 0, () -> x.addLight(3, 3, 1, 9));
-        Check.same("none", 0, () -> x.sightingsOf(0));
+        x.addLight(3, 3, 1, 9);
+        x.setPhase(0, 5);
+        x.pass(1);
+        Check.same("one sighting", 1, () -> x.removeLight(0));
+        Check.same("a new light", 0, () -> x.addLight(3, 3, 1, 24));
+        Check.same("has no sightings", 0, () -> x.sightingsOf(0));
+        Check.same("and the phase 0, 4 minutes by 24", 1, () -> x.beam(0));
     }
 
     private static void promises13And14CountAndLightOn() {
@@ -265,6 +270,12 @@ public final class LightsTest {
         until(x, 0, 3, 5, 2);
         until(x, 0, 4, 2, 7);
         until(x, 1, 0, 0, 7);
+        until(x, 1, 5, 4, 0);
+        until(x, 1, 5, 5, 2);
+        until(x, 1, 4, 5, 3);
+        until(x, 1, 3, 5, 5);
+        until(x, 1, 3, 4, 6);
+        until(x, 1, 4, 3, 9);
         until(x, 1, 5, 3, 10);
         until(x, 2, 1, 2, 12);
         until(x, 2, 2, 1, 18);
@@ -323,7 +334,9 @@ public final class LightsTest {
         Check.same("of the lit ones too", 13, x::litCells);
         x.addLight(7, 7, 9, 8);
         Check.same("range 9 misses what is far off", 61, () -> x.reachedCells(3));
-        Check.index("light 4", () -> x.reachedCells(4));
+        x.addLight(0, 7, 1, 8);
+        Check.same("in the corner of the last row", 3, () -> x.reachedCells(4));
+        Check.index("light 5", () -> x.reachedCells(5));
         Check.index("light -1", () -> x.reachedCells(-1));
     }
 
@@ -350,6 +363,11 @@ public final class LightsTest {
         y.addLight(7, 7, 1, 8);
         y.addLight(6, 7, 2, 8);
         fewest(y, 2);
+        y.addLight(0, 7, 1, 8);
+        y.addLight(1, 7, 1, 8);
+        fewest(y, 4);
+        // The last light leaves nothing to the others, and is not counted when it is gone.
+        fewest(removedLast(), 2);
         // No light reaches more cells than the first one, but the other two reach them all.
         BeamChart z = new BeamChart();
         for (int column = 0; column < 8; column++) {
@@ -363,6 +381,16 @@ public final class LightsTest {
         fewest(z, 2);
         z.removeLight(2);
         fewest(z, 2);
+    }
+
+    private static BeamChart removedLast() {
+        BeamChart x = new BeamChart();
+        x.addLight(0, 0, 1, 8);
+        x.addLight(5, 5, 1, 8);
+        x.addLight(2, 2, 9, 8);
+        fewest(x, 1);
+        x.removeLight(2);
+        return x;
     }
 
     private static void fewest(BeamChart x, int due) {

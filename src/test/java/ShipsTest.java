@@ -134,8 +134,9 @@ public final class ShipsTest {
         Check.same("salvage again", 50, () -> x.salvage(0));
         Check.same("the sum", 80, x::salvaged);
         Check.same("wrecks stay counted", 2, x::wrecks);
-        Check.same("a new ship is afloat", 1, () -> x.addShip(0, 0, 1));
-        Check.same("afloat", false, () -> x.isWrecked(1));
+        Check.same("a new ship", 1, () -> x.addShip(0, 0, 1));
+        Check.same("is afloat", false, () -> x.isWrecked(1));
+        Check.same("and has no dark minutes", 0, () -> x.darkMinutes(1));
     }
 
     private static void promise28PassAnswers() {
@@ -374,6 +375,13 @@ public final class ShipsTest {
         way(x, 0, 0, 0, 0);
         way(x, 0, 7, 7, 14);
         noWay(x, 1, 0, 0);
+        x.addShip(0, 1, 1);
+        noWay(x, 2, 0, 0);
+        x.setDepth(0, 0, 1);
+        way(x, 2, 0, 0, 1);
+        way(x, 2, 1, 0, 2);
+        noWay(x, 1, 0, 0);
+        way(x, 1, 0, 1, 13);
         x.setDepth(7, 6, 1);
         x.setDepth(6, 7, 1);
         noWay(x, 1, 0, 7);
@@ -389,7 +397,10 @@ public final class ShipsTest {
     private static void way(BeamChart x, int ship, int column, int row, int due) {
         String what = " of " + ship + " to " + column + "," + row;
         Check.same("wayLength" + what, due, () -> x.wayLength(ship, column, row));
+        // No call may rest on what the one before found.
+        x.clearanceByFlooding(4, 4, 5, 5);
         Check.same("wayLengthByRounds" + what, due, () -> x.wayLengthByRounds(ship, column, row));
+        x.clearanceByFlooding(4, 4, 5, 5);
     }
 
     private static void noWay(BeamChart x, int ship, int column, int row) {
@@ -464,6 +475,7 @@ public final class ShipsTest {
         x.setDepth(0, 1, 0);
         x.pass(1);
         Check.noElement("a wrecked ship has no goal", () -> x.minutesUntilArrival(0));
+        wreckedWhileWaiting();
         BeamChart y = new BeamChart();
         for (int column = 0; column < 7; column++) {
             y.setDepth(column, 1, 0);
@@ -474,6 +486,21 @@ public final class ShipsTest {
         Check.same("a long way", 7 + 2 + 7 + 2 + 7 + 2 + 7 + 1, () -> y.steer(0, 0, 7));
         Check.same("within 48 minutes", 35, () -> y.minutesUntilArrival(0));
         noArrivalAfterFortyEight();
+    }
+
+    private static void wreckedWhileWaiting() {
+        // The flats open at minute 16, but the ebb of minute 10 comes first.
+        BeamChart x = new BeamChart();
+        x.setDepth(0, 1, 4);
+        x.setDepth(1, 0, 4);
+        x.pass(7);
+        x.addShip(0, 0, 6);
+        x.steer(0, 3, 3);
+        x.pass(1);
+        Check.same("it waits", 0, () -> x.columnOf(0) + x.rowOf(0));
+        Check.noElement("it is wrecked while it waits", () -> x.minutesUntilArrival(0));
+        x.setDepth(0, 0, 6);
+        Check.same("with more water it moves at the minutes 16 to 21", 21 - 8, () -> x.minutesUntilArrival(0));
     }
 
     private static void noArrivalAfterFortyEight() {

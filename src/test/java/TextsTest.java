@@ -148,6 +148,9 @@ public final class TextsTest {
         String full = "depth 00=1;depth 01=1;depth 02=1;depth 03=1;depth 04=1;wait ";
         Check.same("60 characters", 60, full::length);
         fault(x, full, 60);
+        fault(x, "wait 1;".repeat(8) + "wait", 60);
+        fault(x, "wait 1;".repeat(8) + "waxx", 58);
+        fault(x, "wait 1;".repeat(8), 56);
         Check.same("60 characters that match", 6,
             () -> Check.execute(x, "depth 00=1;depth 00=2;depth 00=3;wait 1;wait 2;light 11 9/24"));
         Check.same("six ships", 6,

@@ -56,17 +56,19 @@ public final class UndoTest {
     private static void promise58EachChange() {
         for (int kind = 0; kind < KINDS; kind++) {
             BeamChart x = new BeamChart();
+            x.setDepth(7, 0, 9);
             for (int before = 0; before < kind; before++) {
                 change(x, before);
             }
             int count = x.undoCount();
-            Check.same("count before " + kind, Math.min(kind, 8), () -> count);
+            Check.same("count before " + kind, Math.min(kind + 1, 8), () -> count);
             String portrait = Check.portrait(x);
             BeamChart y = new BeamChart();
+            y.setDepth(7, 0, 9);
             for (int again = 0; again <= kind; again++) {
                 change(y, again);
             }
-            Check.same("undo of " + kind, Math.min(kind, 7), y::undo);
+            Check.same("undo of " + kind, Math.min(kind + 1, 7), y::undo);
             Check.same("after the undo of " + kind, portrait, () -> Check.portrait(y));
         }
     }
@@ -171,6 +173,26 @@ public final class UndoTest {
         Check.same("minute", 4, x::minute);
     }
 
+    private static void removedSightingsComeBack() {
+        BeamChart x = new BeamChart();
+        x.addLight(0, 0, 1, 8);
+        x.addShip(0, 0, 1);
+        x.pass(5);
+        x.saveSnapshot();
+        x.removeLight(0);
+        Check.same("of the removed light", 5, x::sightingsByLights);
+        x.undo();
+        Check.same("of the light that came back", 5, x::sightingsByLights);
+        x.removeLight(0);
+        x.restoreSnapshot();
+        Check.same("of the light in the snapshot", 5, x::sightingsByLights);
+        x.removeLight(0);
+        x.saveSnapshot();
+        x.pass(1);
+        x.restoreSnapshot();
+        Check.same("removed in the snapshot", 5, x::sightingsByLights);
+    }
+
     private static void promise61AndUndo() {
         BeamChart x = new BeamChart();
         Check.same("no ships", 0, x::saveSnapshot);
@@ -189,6 +211,7 @@ public final class UndoTest {
         Check.same("afloat again", false, () -> x.isWrecked(0));
         Check.same("no wrecks", 0, x::wrecks);
         Check.same("depth", 5, () -> x.depth(0, 0));
+        removedSightingsComeBack();
         x.pass(3);
         Check.same("changes after it can be undone", 0, x::undo);
         Check.same("minute", 0, x::minute);
