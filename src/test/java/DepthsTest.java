@@ -11,6 +11,7 @@ public final class DepthsTest {
         promise5Tide();
         promises6And7Ranks();
         promises8And9Clearance();
+        promises8And9ShallowestCell();
         promises8And9WrongCells();
         Check.end("DepthsTest");
     }
@@ -171,6 +172,19 @@ public final class DepthsTest {
         x.pass(4);
         clears(x, 0, 0, 0, 0, 5);
         clears(x, 3, 0, 7, 7, 2);
+    }
+
+    private static void promises8And9ShallowestCell() {
+        // Each corner in turn has less depth than all its neighbours, and one neighbour alone leads on.
+        int[][] cornersAndShut = {{0, 0, 1, 0}, {0, 0, 0, 1}, {7, 0, 6, 0}, {7, 0, 7, 1},
+            {0, 7, 1, 7}, {0, 7, 0, 6}, {7, 7, 6, 7}, {7, 7, 7, 6}};
+        for (int[] at : cornersAndShut) {
+            BeamChart x = new BeamChart();
+            x.setDepth(at[0], at[1], 3);
+            x.setDepth(at[2], at[3], 0);
+            clears(x, at[0], at[1], 4, 4, 3);
+            clears(x, 4, 4, at[0], at[1], 3);
+        }
     }
 
     private static void clears(BeamChart x, int column, int row, int toColumn, int toRow, int due) {

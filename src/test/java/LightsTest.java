@@ -366,6 +366,13 @@ public final class LightsTest {
         y.addLight(0, 7, 1, 8);
         y.addLight(1, 7, 1, 8);
         fewest(y, 4);
+        // The first light can't be left out, but the second one can.
+        BeamChart first = new BeamChart();
+        first.addLight(1, 1, 3, 8);
+        first.addLight(0, 0, 1, 8);
+        fewest(first, 1);
+        first.addLight(6, 6, 3, 8);
+        fewest(first, 2);
         // The last light leaves nothing to the others, and is not counted when it is gone.
         fewest(removedLast(), 2);
         // No light reaches more cells than the first one, but the other two reach them all.
