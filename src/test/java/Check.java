@@ -100,6 +100,10 @@ final class Check {
         return all.toString();
     }
 
+    static int counted() {
+        return good + bad;
+    }
+
     private static void count(boolean holds, String complaint) {
         if (holds) {
             good++;

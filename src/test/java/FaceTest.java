@@ -22,6 +22,7 @@ public final class FaceTest {
         staticFieldsAreFinal();
         noPrivateMethodHasAPublicName();
         theSourceKeepsToTheLanguage();
+        eachPromiseHasAnEdgeTest();
         Check.end("FaceTest");
     }
 
@@ -110,6 +111,22 @@ public final class FaceTest {
             Check.yes("a line stays short: " + lines[line], lines[line].length() <= 120);
             Check.yes("a method stays short: " + lines[line], blockLength(lines, line) <= 60);
         }
+    }
+
+    private static void eachPromiseHasAnEdgeTest() throws Exception {
+        StringBuilder tests = new StringBuilder();
+        for (String name : new String[] {"EdgesOfDepthsAndLightsTest", "EdgesOfShipsTest", "EdgesOfLogAndTextsTest"}) {
+            tests.append(Files.readString(Path.of("src/test/java/" + name + ".java")));
+        }
+        Matcher promise = Pattern.compile("## Promise (\\d+): ").matcher(Files.readString(DOCUMENT));
+        int last = 0;
+        while (promise.find()) {
+            last = Integer.parseInt(promise.group(1));
+            Check.yes("promise " + last + " has an edge test",
+                Pattern.compile("void promise" + last + "[A-Z]").matcher(tests).find());
+        }
+        int promises = last;
+        Check.same("the last promise", 61, () -> promises);
     }
 
     /** The lines from a method's head to its closing brace, 0 for a line that is no head. */
