@@ -1,3 +1,4 @@
+import java.lang.reflect.InvocationTargetException;
 import java.lang.reflect.Method;
 import java.lang.reflect.Modifier;
 import java.util.Arrays;
@@ -31,11 +32,19 @@ final class Edge {
             if (method.getName().startsWith(beginning) && Modifier.isStatic(method.getModifiers())) {
                 method.setAccessible(true);
                 int before = Check.counted();
-                method.invoke(null);
+                run(method);
                 Check.yes(method.getName() + " checks something", Check.counted() > before);
             }
         }
         Check.end(tests.getName());
+    }
+
+    private static void run(Method method) throws IllegalAccessException {
+        try {
+            method.invoke(null);
+        } catch (InvocationTargetException e) {
+            Check.yes(method.getName() + " ends with " + e.getCause(), false);
+        }
     }
 
     /** A light and a ship with a goal are on the chart, so that nothing but the cell is wrong. */

@@ -262,8 +262,44 @@ public final class EdgesOfDepthsAndLightsTest {
         eachDepth("flooding", (x, c, r, toC, toR) -> x.clearanceByFlooding(c, r, toC, toR));
     }
 
+    private static void promise8CornersAgainAndAgain() {
+        corners("clearance", (x, c, r, toC, toR) -> x.clearance(c, r, toC, toR));
+    }
+
+    private static void promise9CornersAgainAndAgain() {
+        corners("flooding", (x, c, r, toC, toR) -> x.clearanceByFlooding(c, r, toC, toR));
+    }
+
     private interface Clearance {
         int run(BeamChart x, int column, int row, int toColumn, int toRow);
+    }
+
+    // No call may rest on what the call before it found.
+    private static void corners(String what, Clearance call) {
+        int[][] corners = {{0, 0, 1, 0, 0, 1}, {7, 0, 6, 0, 7, 1}, {0, 7, 1, 7, 0, 6}, {7, 7, 6, 7, 7, 6}};
+        BeamChart x = new BeamChart();
+        for (int[] corner : corners) {
+            String from = what + " from " + corner[0] + "," + corner[1];
+            Check.same(from, 5, () -> call.run(x, corner[0], corner[1], 3, 4));
+            x.setDepth(corner[2], corner[3], 2);
+            x.setDepth(corner[4], corner[5], 1);
+            Check.same(from + " over the depth 2", 2, () -> call.run(x, corner[0], corner[1], 3, 4));
+            x.setDepth(corner[2], corner[3], 0);
+            Check.same(from + " over the depth 1", 1, () -> call.run(x, 3, 4, corner[0], corner[1]));
+            x.setDepth(corner[4], corner[5], 0);
+            Check.same(from + ", locked", 0, () -> call.run(x, corner[0], corner[1], 3, 4));
+            Check.same(from + " to itself", 5, () -> call.run(x, corner[0], corner[1], corner[0], corner[1]));
+        }
+        for (int[] corner : corners) {
+            BeamChart y = new BeamChart();
+            String to = what + " from 4,4 to " + corner[0] + "," + corner[1];
+            y.setDepth(4, 4, 2);
+            Check.same(to, 2, () -> call.run(y, 4, 4, corner[0], corner[1]));
+            y.setDepth(4, 4, 5);
+            y.setDepth(corner[2], corner[3], 1);
+            y.setDepth(corner[4], corner[5], 1);
+            Check.same(to + ", when all has changed", 1, () -> call.run(y, 4, 4, corner[0], corner[1]));
+        }
     }
 
     // The depth of the cell if both are the same, whatever lies round it.
@@ -390,6 +426,19 @@ public final class EdgesOfDepthsAndLightsTest {
         x.addShip(7, 7, 5);
         Check.same("on land", 0, () -> x.addLight(0, 0, 1, 8));
         Check.same("where a ship is", 1, () -> x.addLight(7, 7, 1, 8));
+    }
+
+    private static void promise10InPlaceOfARemovedLight() {
+        BeamChart x = new BeamChart();
+        x.addLight(0, 0, 9, 24);
+        x.setPhase(0, 5);
+        x.addShip(0, 0, 5);
+        x.pass(1);
+        x.removeLight(0);
+        Check.same("the next one", 0, () -> x.addLight(7, 7, 1, 8));
+        Check.same("has made no sightings", 0, () -> x.sightingsOf(0));
+        Check.same("has the phase 0, a minute by 8", 1, () -> x.beam(0));
+        Check.same("has its own range", 3, () -> x.reachedCells(0));
     }
 
     // ---- setPhase
@@ -738,6 +787,53 @@ public final class EdgesOfDepthsAndLightsTest {
 
     private static void promise23OneIsEnough() {
         Check.same("of six", 1, oneIsEnough()::fewestLights);
+    }
+
+    private static void promise23AnyOneCanBeLeftOut() {
+        for (int spare = 0; spare < 3; spare++) {
+            Check.same("all but the light " + spare, 2, oneIsSpare(spare)::fewestLights);
+        }
+    }
+
+    private static void promise24AnyOneCanBeLeftOut() {
+        for (int spare = 0; spare < 3; spare++) {
+            Check.same("all but the light " + spare, 2, oneIsSpare(spare)::fewestLightsBySearch);
+        }
+    }
+
+    private static void promise23RemovedLightsDoNotCount() {
+        Check.same("one is gone that was enough", 2, oneThatWasEnoughIsGone()::fewestLights);
+    }
+
+    private static void promise24RemovedLightsDoNotCount() {
+        Check.same("one is gone that was enough", 2, oneThatWasEnoughIsGone()::fewestLightsBySearch);
+    }
+
+    private static BeamChart oneThatWasEnoughIsGone() {
+        BeamChart x = new BeamChart();
+        x.addLight(0, 0, 1, 8);
+        x.addLight(5, 5, 1, 8);
+        x.addLight(2, 2, 9, 8);
+        Check.same("one is enough", 1, x::fewestLights);
+        Check.same("one is enough", 1, x::fewestLightsBySearch);
+        x.removeLight(2);
+        return x;
+    }
+
+    /** Two lights far apart that do not reach the cell 0,0, and a small one beside the first of them. */
+    private static BeamChart oneIsSpare(int spare) {
+        BeamChart x = new BeamChart();
+        int[][] others = {{2, 2, 2}, {6, 6, 2}};
+        int next = 0;
+        for (int light = 0; light < 3; light++) {
+            if (light == spare) {
+                x.addLight(2, 3, 1, 8);
+            } else {
+                x.addLight(others[next][0], others[next][1], others[next][2], 8);
+                next++;
+            }
+        }
+        return x;
     }
 
     private static void promise23AllAreNeeded() {

@@ -57,6 +57,24 @@ public final class EdgesOfLogAndTextsTest {
         Check.same("no ships", 0, () -> Edge.lights(6).sightingsByLights());
     }
 
+    private static void promise44PresentAndRemovedLights() {
+        BeamChart x = new BeamChart();
+        for (int light = 0; light < 6; light++) {
+            x.addLight(light, 0, 1, 24);
+        }
+        x.addShip(0, 0, 5);
+        x.addShip(3, 0, 5);
+        x.addShip(5, 0, 5);
+        // Each ship is seen by the light on its cell, and each but the first by the one beside it.
+        Check.same("of the present ones", 10, () -> x.pass(2));
+        Check.same("of the present ones", 10, x::sightingsByLights);
+        x.removeLight(0);
+        Check.same("of the first light too", 10, x::sightingsByLights);
+        x.removeLight(4);
+        Check.same("of the last light too", 10, x::sightingsByLights);
+        Check.same("the same number", 10, x::sightings);
+    }
+
     private static BeamChart allLightsRemoved() {
         BeamChart x = new BeamChart();
         x.addLight(0, 0, 1, 8);
@@ -246,6 +264,16 @@ public final class EdgesOfLogAndTextsTest {
         Edge.failedCommand("light 00 1/8;light 00 1/8", x, 1, 2);
         Edge.failedCommand("light 00 1/8;douse 0;phase 0=1", x, 2, 9);
         Edge.failedCommand("depth 00=0;ship 00 1", x, 1, 3);
+    }
+
+    private static void promise50IndicesOfLightsAndShips() {
+        BeamChart x = Edge.lights(3);
+        Check.same("the last light, then the first one", 2, () -> Check.execute(x, "douse 2;douse 0"));
+        Check.same("the one between is left", 0, () -> x.lightOn(1, 0));
+        BeamChart y = Edge.ships(3);
+        y.setDepth(2, 1, 1);
+        Check.same("the last ship", 2, () -> Check.execute(y, "wait 1;salvage 2"));
+        Check.same("two are left", 2, y::shipCount);
     }
 
     private static void promise50EachDenialAsCause() {
@@ -605,6 +633,73 @@ public final class EdgesOfLogAndTextsTest {
         x.undo();
         Check.state("it can't be undone itself", x::undo);
         Check.same("minute", 0, x::minute);
+    }
+
+    private static void promise58EachKindOfChange() {
+        // Each text is undone on its own, and all of what the calls tell must be as before.
+        String[] texts = {"depth 22=0", "light 34 9/24", "phase 1=3", "douse 0", "douse 1", "ship 55 5", "steer 1>77",
+            "steer 1>11", "salvage 0", "wait 48"};
+        for (String text : texts) {
+            String due = Check.portrait(oneOfAll());
+            BeamChart byText = oneOfAll();
+            Check.execute(byText, text);
+            Check.same(text, 7, byText::undo);
+            Check.same("after the undo of " + text, due, () -> Check.portrait(byText));
+        }
+    }
+
+    private static void promise58EachMethodThatChanges() {
+        for (int method = 0; method < 8; method++) {
+            BeamChart x = oneOfAll();
+            change(x, method);
+            Check.same("method " + method, 7, x::undo);
+            String due = Check.portrait(oneOfAll());
+            Check.same("after the undo of the method " + method, due, () -> Check.portrait(x));
+        }
+    }
+
+    private static void change(BeamChart x, int method) {
+        switch (method) {
+            case 0:
+                x.setDepth(2, 2, 0);
+                break;
+            case 1:
+                x.addLight(3, 4, 9, 24);
+                break;
+            case 2:
+                x.setPhase(1, 3);
+                break;
+            case 3:
+                x.removeLight(0);
+                break;
+            case 4:
+                x.addShip(5, 5, 5);
+                break;
+            case 5:
+                x.steer(1, 7, 7);
+                break;
+            case 6:
+                x.salvage(0);
+                break;
+            default:
+                x.pass(48);
+        }
+    }
+
+    /** Two lights with sightings, a wreck and a ship on its way, after more than eight changes. */
+    private static BeamChart oneOfAll() {
+        BeamChart x = new BeamChart();
+        x.addLight(0, 0, 5, 9);
+        x.addLight(1, 0, 4, 24);
+        x.setPhase(0, 6);
+        x.setPhase(1, 2);
+        x.addShip(0, 0, 4);
+        x.addShip(1, 0, 3);
+        x.steer(1, 1, 6);
+        x.pass(1);
+        x.setDepth(0, 0, 2);
+        x.pass(2);
+        return x;
     }
 
     private static void promise58ChangeWithoutEffect() {

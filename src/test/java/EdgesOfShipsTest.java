@@ -458,6 +458,28 @@ public final class EdgesOfShipsTest {
         ofAWreck("wayLengthByRounds", (x, column, row) -> x.wayLengthByRounds(0, column, row));
     }
 
+    private static void promise37ToEachCorner() {
+        toEachCorner("wayLength", (x, column, row) -> x.wayLength(0, column, row));
+    }
+
+    private static void promise38ToEachCorner() {
+        toEachCorner("wayLengthByRounds", (x, column, row) -> x.wayLengthByRounds(0, column, row));
+    }
+
+    private static void toEachCorner(String what, Edge.CellCall call) {
+        int[][] corners = {{0, 0, 7}, {7, 0, 6}, {0, 7, 8}, {7, 7, 7}};
+        BeamChart x = new BeamChart();
+        x.addShip(4, 3, 5);
+        for (int[] corner : corners) {
+            String to = what + " to " + corner[0] + "," + corner[1];
+            Check.same(to, corner[2], () -> call.run(x, corner[0], corner[1]));
+            x.setDepth(corner[0], corner[1], 4);
+            Check.noElement(to + ", too shallow", () -> call.run(x, corner[0], corner[1]));
+            x.setDepth(corner[0], corner[1], 6);
+            Check.same(to + ", deep again", corner[2], () -> call.run(x, corner[0], corner[1]));
+        }
+    }
+
     private static void noWay(String what, Edge.CellCall call) {
         BeamChart x = new BeamChart();
         x.addShip(0, 0, 5);

@@ -197,6 +197,7 @@ public final class EdgesOfTermsTest {
                 Check.same("ship " + s + " without " + removed, due, () -> x.columnOf(s));
             }
             Check.same("a new ship comes last", 5, () -> x.addShip(7, 7, 1));
+            Check.same("the one before it stays", removed == 5 ? 4 : 5, () -> x.columnOf(4));
         }
     }
 
@@ -253,6 +254,26 @@ public final class EdgesOfTermsTest {
         Check.noElement("land is no way, by rounds", () -> x.wayLengthByRounds(0, 1, 0));
     }
 
+    // The water of land is 0, also for a ship with the least draught at the high tide.
+    private static void termNoWayOverLandInTheFlood() {
+        BeamChart x = new BeamChart();
+        x.addShip(0, 0, 1);
+        x.setDepth(1, 0, 0);
+        x.setDepth(0, 1, 0);
+        x.pass(4);
+        Check.noElement("land", () -> x.wayLength(0, 1, 0));
+        Check.noElement("land, by rounds", () -> x.wayLengthByRounds(0, 1, 0));
+        Check.denied("land", x, 4, 0, () -> x.steer(0, 1, 0));
+        x.setDepth(1, 0, 1);
+        Check.same("the least depth", 1, () -> x.wayLength(0, 1, 0));
+        Check.same("the least depth, by rounds", 1, () -> x.wayLengthByRounds(0, 1, 0));
+        Check.same("over the least depth", 3, () -> x.steer(0, 2, 1));
+        x.pass(7);
+        x.steer(0, 0, 0);
+        x.pass(3);
+        Check.same("back in the ebb", 0, () -> x.columnOf(0));
+    }
+
     // The water of the cell where the way begins does not matter.
     private static void termWayBeginsAnywhere() {
         BeamChart x = new BeamChart();
@@ -279,7 +300,8 @@ public final class EdgesOfTermsTest {
 
     // Indexed from 0 like ships.
     private static void termIndicesOfLaterLights() {
-        for (int removed = 0; removed < 6; removed++) {
+        for (int each = 0; each < 6; each++) {
+            int removed = each;
             BeamChart x = Edge.lights(6);
             x.removeLight(removed);
             Check.same("five are left", 5, x::lightCount);
@@ -289,6 +311,7 @@ public final class EdgesOfTermsTest {
                 Check.same("light " + l + " without " + removed, l, () -> x.lightOn(column, 0));
             }
             Check.same("a new light comes last", 5, () -> x.addLight(7, 7, 1, 8));
+            Check.same("the one before it stays", 4, () -> x.lightOn(removed == 5 ? 4 : 5, 0));
         }
     }
 

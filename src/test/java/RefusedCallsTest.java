@@ -102,13 +102,24 @@ public final class RefusedCallsTest {
         all.append(x.minute()).append(' ').append(x.meanDepth()).append(' ').append(x.undoCount());
         all.append(' ').append(x.sightings()).append(' ').append(x.sightingsByLights());
         all.append(' ').append(x.wrecks()).append(' ').append(x.salvaged()).append(' ').append(x.litCells());
-        for (int light = 0; light < x.lightCount(); light++) {
+        int lights = x.lightCount();
+        for (int light = 0; light < lights; light++) {
             all.append(" light ").append(x.beam(light)).append(' ').append(x.sightingsOf(light));
         }
-        for (int ship = 0; ship < x.shipCount(); ship++) {
-            all.append(' ').append(Edge.ship(x, ship));
+        int ships = x.shipCount();
+        for (int ship = 0; ship < ships; ship++) {
+            all.append(" ship ").append(x.columnOf(ship)).append(x.rowOf(ship)).append(x.isWrecked(ship));
+            all.append(goalOf(x, ship)).append(x.darkMinutes(ship));
         }
         return all.toString();
+    }
+
+    private static String goalOf(BeamChart x, int ship) {
+        try {
+            return " to " + x.goalColumn(ship) + x.goalRow(ship) + ' ';
+        } catch (NoSuchElementException e) {
+            return " ";
+        }
     }
 
     private static void depths() {

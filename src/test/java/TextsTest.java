@@ -5,7 +5,8 @@ public final class TextsTest {
         promise50EachCommand();
         promise50SeveralCommands();
         promise50AllOrNone();
-        promise50Failures();
+        promise50DeniedCommands();
+        promise50CommandsWithOtherExceptions();
         promise50FullBuffer();
         promise51FaultPositions();
         promise51KeptFault();
@@ -97,7 +98,7 @@ public final class TextsTest {
         Check.same("the buffer is empty again", 1, () -> x.feed('w'));
     }
 
-    private static void promise50Failures() {
+    private static void promise50DeniedCommands() {
         BeamChart x = new BeamChart();
         x.addLight(0, 0, 1, 8);
         x.setDepth(1, 0, 0);
@@ -110,6 +111,12 @@ public final class TextsTest {
         fails(x, "ship 00 5;depth 00=0;wait 1;steer 0>00", 3, 5);
         fails(x, "ship 00 5;salvage 0", 1, 6);
         fails(x, "phase 0=0", 0, 7);
+        nothingIsExecuted(x);
+    }
+
+    private static void promise50CommandsWithOtherExceptions() {
+        BeamChart x = new BeamChart();
+        x.addLight(0, 0, 1, 8);
         fails(x, "depth 80=1", 0, 9);
         fails(x, "depth 08=1", 0, 9);
         fails(x, "depth 11=6;light 11 0/8", 1, 9);
@@ -128,8 +135,13 @@ public final class TextsTest {
         fails(x, "wait 00", 0, 9);
         fails(x, "wait 49", 0, 9);
         fails(x, "wait 48;wait 99", 1, 9);
+        nothingIsExecuted(x);
+    }
+
+    private static void nothingIsExecuted(BeamChart x) {
         Check.same("no minute passed", 0, x::minute);
         Check.same("no ship came", 0, x::shipCount);
+        Check.same("the light is left", 1, x::lightCount);
         Check.noElement("no fault was kept", x::faultPosition);
     }
 
@@ -159,77 +171,74 @@ public final class TextsTest {
     }
 
     private static void promise51FaultPositions() {
-        BeamChart x = new BeamChart();
-        Check.noElement("none was kept yet", x::faultPosition);
-        fault(x, "", 0);
-        fault(x, "x", 0);
-        fault(x, ";", 0);
-        fault(x, " wait 1", 0);
-        fault(x, "Wait 1", 0);
-        fault(x, "d", 1);
-        fault(x, "dx", 1);
-        fault(x, "de", 2);
-        fault(x, "dep", 3);
-        fault(x, "depuse", 3);
-        fault(x, "do", 2);
-        fault(x, "doth 00=1", 2);
-        fault(x, "s", 1);
-        fault(x, "sz", 1);
-        fault(x, "sh", 2);
-        fault(x, "st", 2);
-        fault(x, "sa", 2);
-        fault(x, "shteer", 2);
-        fault(x, "salvage", 7);
-        fault(x, "salvage ", 8);
-        fault(x, "salvage x", 8);
-        fault(x, "salvage 00", 9);
-        fault(x, "depth 00", 8);
-        fault(x, "depth  0", 6);
-        fault(x, "depth 0", 7);
-        fault(x, "depth 0=", 7);
-        fault(x, "depth 00-", 8);
-        fault(x, "depth 00=", 9);
-        fault(x, "depth 00=10", 10);
-        fault(x, "depth 00=1 ", 10);
-        fault(x, "depth 00=1;", 11);
-        fault(x, "depth 00=1;;", 11);
-        fault(x, "depth 00=1; wait 1", 11);
-        fault(x, "depth 00=1;wai", 14);
-        fault(x, "depth 00=1;waix", 14);
-        fault(x, "light 00 1", 10);
-        fault(x, "light 00 1 8", 10);
-        fault(x, "light 00 10/8", 10);
-        fault(x, "light 00 1/", 11);
-        fault(x, "light 00 1/x", 11);
-        fault(x, "light 00 1/8x", 12);
-        fault(x, "light 00 1/123", 13);
-        fault(x, "light 00 1/12;", 14);
-        fault(x, "phase 0", 7);
-        fault(x, "phase 00=1", 7);
-        fault(x, "phase 0=12", 9);
-        fault(x, "douse", 5);
-        fault(x, "douse 12", 7);
-        fault(x, "ship 00", 7);
-        fault(x, "ship 001", 7);
-        fault(x, "ship 00 12", 9);
-        fault(x, "steer 0=00", 7);
-        fault(x, "steer 0>0", 9);
-        fault(x, "steer 0>00>", 10);
-        fault(x, "wait", 4);
-        fault(x, "wait ", 5);
-        fault(x, "wait  1", 5);
-        fault(x, "wait -1", 5);
-        fault(x, "wait 1 ", 6);
-        fault(x, "wait 123", 7);
-        fault(x, "wait 1\u0000", 6);
-        fault(x, "wait \u0000", 5);
-        fault(x, "wait \u0661", 5);
-        fault(x, "wait #", 5);
-        fault(x, "wait N", 5);
-        fault(x, "depth ##=#", 6);
-        fault(x, "w\u0161it", 1);
-        Check.same("nothing has changed", 0, x::undoCount);
-        Check.noElement("a fault is no denial", x::denial);
+        Check.noElement("none was kept yet", () -> new BeamChart().faultPosition());
+        Edge.fault("", 0);
+        Edge.fault("x", 0);
+        Edge.fault(";", 0);
+        Edge.fault(" wait 1", 0);
+        Edge.fault("Wait 1", 0);
+        Edge.fault("d", 1);
+        Edge.fault("dx", 1);
+        Edge.fault("de", 2);
+        Edge.fault("dep", 3);
+        Edge.fault("depuse", 3);
+        Edge.fault("do", 2);
+        Edge.fault("doth 00=1", 2);
+        Edge.fault("s", 1);
+        Edge.fault("sz", 1);
+        Edge.fault("sh", 2);
+        Edge.fault("st", 2);
+        Edge.fault("sa", 2);
+        Edge.fault("shteer", 2);
+        Edge.fault("salvage", 7);
+        Edge.fault("salvage ", 8);
+        Edge.fault("salvage x", 8);
+        Edge.fault("salvage 00", 9);
+        Edge.fault("depth 00", 8);
+        Edge.fault("depth  0", 6);
+        Edge.fault("depth 0", 7);
+        Edge.fault("depth 0=", 7);
+        Edge.fault("depth 00-", 8);
+        Edge.fault("depth 00=", 9);
+        Edge.fault("depth 00=10", 10);
+        Edge.fault("depth 00=1 ", 10);
+        Edge.fault("depth 00=1;", 11);
+        Edge.fault("depth 00=1;;", 11);
+        Edge.fault("depth 00=1; wait 1", 11);
+        Edge.fault("depth 00=1;wai", 14);
+        Edge.fault("depth 00=1;waix", 14);
+        Edge.fault("light 00 1", 10);
+        Edge.fault("light 00 1 8", 10);
+        Edge.fault("light 00 10/8", 10);
+        Edge.fault("light 00 1/", 11);
+        Edge.fault("light 00 1/x", 11);
+        Edge.fault("light 00 1/8x", 12);
+        Edge.fault("light 00 1/123", 13);
+        Edge.fault("light 00 1/12;", 14);
+        Edge.fault("phase 0", 7);
+        Edge.fault("phase 00=1", 7);
+        Edge.fault("phase 0=12", 9);
+        Edge.fault("douse", 5);
+        Edge.fault("douse 12", 7);
+        Edge.fault("ship 00", 7);
+        Edge.fault("ship 001", 7);
+        Edge.fault("ship 00 12", 9);
+        Edge.fault("steer 0=00", 7);
+        Edge.fault("steer 0>0", 9);
+        Edge.fault("steer 0>00>", 10);
+        Edge.fault("wait", 4);
+        Edge.fault("wait ", 5);
+        Edge.fault("wait  1", 5);
+        Edge.fault("wait -1", 5);
+        Edge.fault("wait 1 ", 6);
+        Edge.fault("wait 123", 7);
+        Edge.fault("wait 1\u0000", 6);
+        Edge.fault("wait \u0000", 5);
+        Edge.fault("wait \u0661", 5);
+        Edge.fault("wait #", 5);
+        Edge.fault("wait N", 5);
+        Edge.fault("depth ##=#", 6);
+        Edge.fault("w\u0161it", 1);
     }
 
     private static void fault(BeamChart x, String text, int due) {
