@@ -764,6 +764,48 @@ public final class EdgesOfTermsTest {
         Edge.failedCommand("wait 99", x, 0, 9);
     }
 
+    // Each method lists its possible denials in the order in which they are checked.
+    private static void termDenialsInTheirOrder() {
+        BeamChart lights = Edge.lights(6);
+        Check.denied("limit before a light on the cell", lights, 1, 6, () -> lights.addLight(0, 0, 1, 8));
+        BeamChart ships = Edge.ships(6);
+        Check.denied("limit before the water", ships, 1, 6, () -> ships.addShip(0, 0, 9));
+        BeamChart x = Edge.ships(2);
+        x.setDepth(1, 1, 1);
+        x.setDepth(5, 5, 0);
+        x.pass(1);
+        Check.denied("wrecked before no way", x, 5, 1, () -> x.steer(1, 5, 5));
+    }
+
+    // If the conditions of several exceptions hold, the one that is documented first is thrown.
+    private static void termTheFirstDocumentedException() {
+        BeamChart x = Edge.lights(6);
+        for (int ship = 0; ship < 6; ship++) {
+            x.addShip(ship, 1, 5);
+        }
+        x.setDepth(0, 1, 1);
+        x.pass(1);
+        Check.index("setDepth: cell before depth", () -> x.setDepth(0, 8, -1));
+        Check.index("addLight: cell before range and limit", () -> x.addLight(-1, 0, 0, 25));
+        Check.argument("addLight: range before limit", () -> x.addLight(7, 7, 10, 8));
+        Check.argument("addLight: period before limit", () -> x.addLight(7, 7, 9, 7));
+        Check.index("setPhase: light before phase", () -> x.setPhase(6, 8));
+        Check.index("addShip: cell before draught and limit", () -> x.addShip(8, 8, 0));
+        Check.argument("addShip: draught before limit and water", () -> x.addShip(0, 0, 10));
+        Check.index("steer: cell before wrecked", () -> x.steer(0, 0, 8));
+        Check.index("minutesUntilSwept: light before reach", () -> x.minutesUntilSwept(6, 7, 7));
+        Check.index("byDivision: light before reach", () -> x.minutesUntilSweptByDivision(6, 7, 7));
+        Check.index("sectorOf: light before its cell", () -> x.sectorOf(-1, 0, 0));
+        Check.index("lightOn: cell before light", () -> x.lightOn(8, 0));
+        Check.index("wayLength: ship before way", () -> x.wayLength(6, 0, 1));
+        Check.index("byRounds: ship before way", () -> x.wayLengthByRounds(6, 0, 1));
+        Check.index("goalColumn: ship before goal", () -> x.goalColumn(6));
+        Check.index("goalRow: ship before goal", () -> x.goalRow(6));
+        Check.index("minutesUntilArrival: ship before goal", () -> x.minutesUntilArrival(6));
+        Check.argument("execute: grammar before denial", () -> Check.execute(x, "wait 0;wait"));
+        Check.noElement("none of them is a denial", x::denial);
+    }
+
     // The detail is the index of the command, from 0.
     private static void termIndexOfTheFailedCommand() {
         BeamChart x = new BeamChart();
