@@ -3,20 +3,22 @@ import java.lang.reflect.Method;
 import java.lang.reflect.Modifier;
 import java.nio.file.Files;
 import java.nio.file.Path;
+import java.util.Arrays;
 import java.util.List;
 import java.util.regex.Matcher;
 import java.util.regex.Pattern;
 import java.util.stream.Collectors;
 import java.util.stream.Stream;
 
-/** README.md shows an example that answers as it says, and leaves no call and no test out. */
+/** README.md shows an example and commands that do as it says, and leaves no call and no test out. */
 public final class ReadmeTest {
     private static final Path README = Path.of("README.md");
     private static final Path TESTS = Path.of("src/test/java");
 
-    public static void main(String[] args) throws IOException {
+    public static void main(String[] args) throws Exception {
         theExampleAnswersAsItSays();
         theExampleIsThatOfThePage();
+        theCommandsDoWhatTheirCallsDo();
         everyCallIsNamed();
         everyTestIsNamed();
         Check.end("ReadmeTest");
@@ -50,6 +52,47 @@ public final class ReadmeTest {
         Check.yes("the page has an example", block.find());
         String here = Files.readString(TESTS.resolve("ReadmeTest.java"));
         Check.yes("the example is the one that is run here", here.contains(block.group(1).indent(8)));
+    }
+
+    /** Each row of the page's table: the command and its call make the same of equal charts. */
+    private static void theCommandsDoWhatTheirCallsDo() throws Exception {
+        Matcher row = Pattern.compile("\\| `([a-z]+ [^`]+)` \\| `([a-zA-Z]+)\\(([0-9, ]+)\\)` \\|")
+            .matcher(Files.readString(README));
+        int rows = 0;
+        while (row.find()) {
+            rows++;
+            String command = row.group(1);
+            boolean onAWreck = command.startsWith("salvage");
+            String before = Check.portrait(chart(onAWreck));
+            BeamChart byCall = chart(onAWreck);
+            call(byCall, row.group(2), row.group(3).split(", "));
+            String due = Check.portrait(byCall);
+            Check.yes(command + " alters the chart", !due.equals(before));
+            BeamChart byText = chart(onAWreck);
+            Check.same(command, 1, () -> Check.execute(byText, command));
+            Check.same(command + " does what its call does", due, () -> Check.portrait(byText));
+        }
+        int found = rows;
+        Check.same("the rows of commands", 8, () -> found);
+    }
+
+    private static BeamChart chart(boolean withAWreck) {
+        BeamChart chart = new BeamChart();
+        chart.addLight(0, 0, 9, 8);
+        chart.addShip(7, 7, 5);
+        if (withAWreck) {
+            chart.setDepth(7, 7, 1);
+            chart.pass(1);
+        }
+        return chart;
+    }
+
+    private static void call(BeamChart chart, String name, String[] values) throws Exception {
+        for (Method method : BeamChart.class.getDeclaredMethods()) {
+            if (Modifier.isPublic(method.getModifiers()) && method.getName().equals(name)) {
+                method.invoke(chart, Arrays.stream(values).map(Integer::valueOf).toArray());
+            }
+        }
     }
 
     private static void everyCallIsNamed() throws IOException {
